@@ -12,6 +12,7 @@ public final class ClearTest {
         clears();
         clearsWithin100();
         foretellsAsItComes();
+        foretellsByWhatIsNow();
         nothingChanges();
         DUE.end();
     }
@@ -263,6 +264,47 @@ public final class ClearTest {
             case 9: x.stop(1, false); break;
             case 10: x.meter(0, 1); break;
             default: x.enter(4, 0, false, false, now % 3);
+        }
+    }
+
+    private static void foretellsByWhatIsNow() {
+        CrushLoad gate = new CrushLoad();
+        gate.room(CrushLoad.STREET, 1);
+        gate.room(CrushLoad.PLATFORM, 20);
+        gate.link(CrushLoad.GATE, 0, 1, 2, 9);
+        gate.train(1, 3, 0, 0, 1);
+        DUE.is("P18 not by the gate", gate.foretell(1, 5), 3);
+        gate.clear();
+        DUE.is("P18 back by the gate", gate.foretell(1, 5), 0);
+        CrushLoad stair = new CrushLoad();
+        stair.room(CrushLoad.STREET, 1);
+        stair.room(CrushLoad.PLATFORM, 20);
+        stair.link(CrushLoad.MOVING, 0, 1, 2, 3);
+        stair.link(CrushLoad.DOOR, 0, 1, 1, 0);
+        stair.train(1, 6, 0, 0, 1);
+        DUE.is("P18 not by the stair", stair.foretell(1, 1), 6);
+        stair.meter(1, 9);
+        DUE.is("P18 by the door", stair.foretell(1, 1), 0);
+        stair.close(1, true);
+        stair.announce();
+        stair.close(1, false);
+        DUE.is("P19 no way that is known", stair.clears(), CrushLoad.NONE);
+        stair.stop(0, true);
+        DUE.is("P18 by the stair that stands, with the half of its rate", stair.foretell(1, 1), 4);
+        DUE.is("P19 by that alone", stair.clears(), 5);
+        CrushLoad train = new CrushLoad();
+        train.room(CrushLoad.STREET, 1);
+        train.room(CrushLoad.PLATFORM, 40);
+        train.link(CrushLoad.DOOR, 0, 1, 1, 9);
+        for (int i = 0; i < 30; i++) {
+            train.enter(0, 1, false, true, CrushLoad.NONE);
+        }
+        train.pass(5);
+        train.train(1, 0, 0, 99, 1);
+        for (int second = 0; second < 4; second++) {
+            DUE.is("P18 with a train that stays longer, second " + second, train.foretell(1, 20), 14);
+            DUE.is("P18 again, second " + second, train.foretell(1, 4 - second), 14);
+            train.pass(1);
         }
     }
 

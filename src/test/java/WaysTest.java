@@ -10,6 +10,7 @@ public final class WaysTest {
         knowledge();
         longestWay();
         manyWays();
+        atTheFirstRoom();
         DUE.end();
     }
 
@@ -113,6 +114,25 @@ public final class WaysTest {
         DUE.is("P16 the last link", x.person(0, 3), 8);
         x.close(4, true);
         both("with a gap", x, 0, CrushLoad.NONE);
+    }
+
+    /** Room 0 as the goal, and link 0 at it: who waits there does not go on, nor will. */
+    private static void atTheFirstRoom() {
+        CrushLoad x = new CrushLoad();
+        x.room(CrushLoad.PLATFORM, 9);
+        x.room(CrushLoad.STREET, 1);
+        x.link(CrushLoad.DOOR, 0, 1, 1, 9);
+        for (int kind = 0; kind < 4; kind++) {
+            x.enter(1, 0, kind % 2 == 1, kind > 1, CrushLoad.NONE);
+        }
+        DUE.is("P18 all wait there", x.foretell(0, 9), 4);
+        x.pass(5);
+        for (int kind = 0; kind < 4; kind++) {
+            both("there", x, kind, 0);
+            DUE.is("P16 no next link there", x.person(kind, 3), CrushLoad.NONE);
+        }
+        DUE.is("P15 nobody waits for the link", x.ofLink(0, 3), 0);
+        DUE.is("P18 all wait there still", x.foretell(0, 9), 4);
     }
 
     /** Links beside one another, so that there are many ways, and rings. */
