@@ -11,6 +11,8 @@ public final class EdgesOfTrainsTest {
         nobodyInTheLastSecond();
         comesInTheLastSecond();
         whoCounts();
+        atOtherPlatforms();
+        whoCameLater();
         eachPlatformItsOwn();
         alights();
         alightsByNumbers();
@@ -182,6 +184,60 @@ public final class EdgesOfTrainsTest {
         y.pass(1);
         tells("nor does it stay more for them", y, 0, 0, 0, 0, 0);
         DUE.is("P14 they wait still", y.ofRoom(1, 0), 2);
+    }
+
+    /** Three platforms in a row: at each, one who waits there for a train, and two who are to go on to the other ones. */
+    private static void atOtherPlatforms() {
+        CrushLoad x = new CrushLoad();
+        x.room(CrushLoad.PLATFORM, 9);
+        x.room(CrushLoad.PLATFORM, 9);
+        x.room(CrushLoad.PLATFORM, 9);
+        x.room(CrushLoad.STREET, 1);
+        for (int platform = 0; platform < 3; platform++) {
+            x.link(CrushLoad.DOOR, 3, platform, 1, 9);
+        }
+        x.link(CrushLoad.DOOR, 0, 1, 1, 0);
+        x.link(CrushLoad.DOOR, 1, 2, 1, 0);
+        x.link(CrushLoad.DOOR, 2, 0, 1, 0);
+        for (int platform = 0; platform < 3; platform++) {
+            for (int open = 0; open < 3; open++) {
+                x.close(open, open != platform);
+            }
+            for (int goal = 0; goal < 3; goal++) {
+                x.enter(3, goal, false, true, CrushLoad.NONE);
+            }
+            x.pass(2);
+        }
+        for (int platform = 0; platform < 3; platform++) {
+            DUE.is("P14 three wait at platform " + platform, x.ofRoom(platform, 0), 3);
+            DUE.is("P10 a train at platform " + platform, x.train(platform, 0, 3, 9, 2), platform);
+        }
+        x.pass(2);
+        for (int train = 0; train < 3; train++) {
+            tells("one went aboard, and it left, train " + train, x, train, 1, 0, 0, 0);
+        }
+        for (int person = 0; person < 9; person++) {
+            DUE.is("P16 at the goal or not, person " + person, x.person(person, 0),
+                    person % 4 == 0 ? CrushLoad.GONE : CrushLoad.WAITS);
+        }
+    }
+
+    /** Four who came one after the other, and space for fewer: those who came later are left, with whatever numbers. */
+    private static void whoCameLater() {
+        for (int space = 0; space <= 4; space++) {
+            CrushLoad x = waiting(0);
+            for (int person = 0; person < 4; person++) {
+                x.enter(0, 1, false, true, CrushLoad.NONE);
+                x.pass(1);
+            }
+            x.pass(1);
+            x.train(1, 0, 0, space, 1);
+            x.pass(1);
+            for (int person = 0; person < 4; person++) {
+                DUE.is("P16 space " + space + ", person " + person, x.person(person, 0),
+                        person < space ? CrushLoad.GONE : CrushLoad.WAITS);
+            }
+        }
     }
 
     private static void eachPlatformItsOwn() {

@@ -18,6 +18,7 @@ public final class EdgesTest {
         ratesBothWays();
         halfRates();
         steps();
+        movingStairs();
         orderedGates();
         chairs();
         closedAndKnown();
@@ -291,6 +292,42 @@ public final class EdgesTest {
                 DUE.is(label + ", nobody is on the way", x.ofRoom(1, 1), 0);
             }
         }
+    }
+
+    /** Forth, or turned, back; both ways if it stands; from a lower room to a higher one, and the other way round. */
+    private static void movingStairs() {
+        for (int from = 0; from <= 1; from++) {
+            for (int how = 0; how < 4; how++) {
+                boolean turned = how % 2 == 1;
+                boolean stands = how > 1;
+                CrushLoad x = new CrushLoad();
+                x.room(CrushLoad.STREET, 1);
+                x.room(CrushLoad.STREET, 1);
+                x.link(CrushLoad.MOVING, from, 1 - from, 1, 9);
+                x.enter(from, 1 - from, false, true, CrushLoad.NONE);
+                x.enter(1 - from, from, false, true, CrushLoad.NONE);
+                String label = " from " + from + (turned ? ", turned" : "") + (stands ? ", stands" : "");
+                if (turned) {
+                    DUE.is("P6 it goes back" + label, x.turn(0), true);
+                }
+                DUE.is("P7 it went" + label, x.stop(0, stands), false);
+                int forth = !turned || stands ? 1 : 0;
+                int back = turned || stands ? 1 : 0;
+                DUE.is("P16 forth" + label, x.person(0, 3), forth - 1);
+                DUE.is("P16 back" + label, x.person(1, 3), back - 1);
+                both("forth" + label, x, 0, forth == 1 ? 1 : CrushLoad.NONE);
+                both("back" + label, x, 1, back == 1 ? 1 : CrushLoad.NONE);
+                DUE.is("P15 wait for it" + label, x.ofLink(0, 3), forth + back);
+                x.pass(1);
+                DUE.is("P15 began forth" + label, x.ofLink(0, 1), forth);
+                DUE.is("P15 began back" + label, x.ofLink(0, 2), back);
+            }
+        }
+    }
+
+    private static void both(String label, CrushLoad x, int person, int want) {
+        DUE.is("P20 " + label, x.alone(person), want);
+        DUE.is("P21 " + label, x.aloneAnew(person), want);
     }
 
     /** A gate goes one way until it is ordered to clear, a moving stair one way unless it stands, also those added later. */

@@ -71,6 +71,7 @@ public final class RefusedTest {
         this.label = label;
         this.maker = maker;
         this.counts = counts;
+        countsAreRight();
         addQuestions();
         for (Then then : Then.values()) {
             due.add(answers(x -> 0, then));
@@ -162,6 +163,23 @@ public final class RefusedTest {
         x.train(3, 0, 0, 9, 9);
         x.pass(2);
         return x;
+    }
+
+    private void countsAreRight() {
+        CrushLoad x = maker.make();
+        for (int last = 1; last >= 0; last--) {
+            int of = last;
+            String due = last == 1 ? "an answer" : "throws.IndexOutOfBoundsException";
+            DUE.same("rooms, " + label, answerOr(() -> x.ofRoom(counts[0] - of, 0)), due);
+            DUE.same("links, " + label, answerOr(() -> x.ofLink(counts[1] - of, 0)), due);
+            DUE.same("persons, " + label, answerOr(() -> x.person(counts[2] - of, 0)), due);
+            DUE.same("trains, " + label, answerOr(() -> x.ofTrain(counts[3] - of, 0)), due);
+        }
+    }
+
+    private static String answerOr(Due.Call call) {
+        String outcome = Due.outcome(call);
+        return outcome.contains("throws") ? outcome : "an answer";
     }
 
     private void addQuestions() {
